@@ -1038,7 +1038,9 @@ public final class StreamTree {
             boolean whole = true;
             for (int ring = chart.rings; ring >= 1 && whole; ring--) {
                 for (int turn = 0; turn < chart.turns; turn++) {
-                    whole &= !chart.rock[chart.cellInwards(ring, turn, STRAIGHT)] || tree.bits[cellOf(ring, turn)] == 0;
+                    if (tree.bits[cellOf(ring, turn)] != 0 && chart.rock[chart.cellInwards(ring, turn, STRAIGHT)]) {
+                        whole = false;
+                    }
                     go(chart, tree, ring, turn, STRAIGHT);
                 }
             }

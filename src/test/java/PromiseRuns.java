@@ -163,6 +163,8 @@ public final class PromiseRuns {
         dueText("chart 2 6;chart 2 6", fault(10, 1));
         dueText("chart 2 6;base x", fault(15, 1));
         dueText("chart 2 6;base", fault(14, 1));
+        dueText("chart 2 6;basez 1", fault(10, 1));
+        dueText("chart 2 6;abase 1", fault(10, 1));
         dueText("chart 2 6;place 1 1", fault(19, 1));
         dueText("chart 2 6;place 1 1 -1", fault(20, 1));
         dueText("chart 2 6;base \u00e9", fault(15, 1));
