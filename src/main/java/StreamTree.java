@@ -173,7 +173,7 @@ public final class StreamTree {
     }
 
     public int join(int manner, int i, int what) {
-        if (!isTreeManner(manner) || i < NONE || i != NONE && !isWithin(what, 0, 2)) {
+        if (!isTreeManner(manner) || i < NONE || !isWithin(what, 0, 2)) {
             return NONE;
         }
         Tree tree = treeOf(manner);
@@ -221,11 +221,7 @@ public final class StreamTree {
             return NONE;
         }
         Tree tree = treeOf(manner);
-        if (!tree.exists) {
-            return NO_TREE;
-        }
-        int bits = tree.bits[cellOf(ring, turn)];
-        return bits == 0 ? NONE : bits;
+        return tree.exists ? tree.bits[cellOf(ring, turn)] : NO_TREE;
     }
 
     public int alone(int place) {

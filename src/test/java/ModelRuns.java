@@ -477,7 +477,7 @@ public final class ModelRuns {
         }
 
         int join(int manner, int i, int what) {
-            if (manner < 1 || manner > 4 || i < -1 || i >= 0 && (what < 0 || what > 2)) {
+            if (manner < 1 || manner > 4 || i < -1 || what < 0 || what > 2) {
                 return -1;
             }
             Map<Cell, Integer> steps = tree(manner);
@@ -545,11 +545,7 @@ public final class ModelRuns {
             if (manner < 1 || manner > 4 || !isCell(ring, turn)) {
                 return -1;
             }
-            if (tree(manner) == null) {
-                return -2;
-            }
-            int bits = bitsAt(tree(manner), new Cell(ring, turn));
-            return bits == 0 ? -1 : bits;
+            return tree(manner) == null ? -2 : bitsAt(tree(manner), new Cell(ring, turn));
         }
 
         int alone(int place) {
@@ -955,7 +951,7 @@ public final class ModelRuns {
                 }
             }
             for (int i = -1; i <= 7; i++) {
-                for (int what = 0; what <= 4; what++) {
+                for (int what = -1; what <= 5; what++) {
                     same(run, "join(" + manner + "," + i + "," + what + ") of all", x.join(manner, i, what),
                         m.join(manner, i, what));
                     same(run, "drawn(" + manner + "," + what + ") of all", x.drawn(manner, what),

@@ -514,7 +514,7 @@ public final class PromiseRuns {
         due("the source, TURN", x.join(1, 1, 1), 0);
         due("the source, how many", x.join(1, 1, 2), 3);
         int[][] others = {{0, 0, 0}, {5, 0, 0}, {1, -2, 0}, {1, 0, 3}, {1, 0, -1}, {FAR, NONE, 0}, {1, DEEP, 0},
-            {1, 0, DEEP}};
+            {1, 0, DEEP}, {1, NONE, 3}, {1, NONE, -1}, {1, NONE, FAR}, {1, NONE, DEEP}};
         for (int[] o : others) {
             due("join(" + o[0] + ", " + o[1] + ", " + o[2] + ")", x.join(o[0], o[1], o[2]), NONE);
         }
@@ -530,9 +530,14 @@ public final class PromiseRuns {
         due("no tree, how many", y.join(1, NONE, 0), NO_TREE);
         due("no tree, none such", y.join(1, 9, 0), NO_TREE);
         due("no tree, others", y.join(1, 0, 3), NONE);
+        due("no tree, others", y.join(1, NONE, 3), NONE);
+        due("no tree, others", y.join(1, NONE, -1), NONE);
+        due("how many, by each what", y.join(4, NONE, 1), 3);
+        due("how many, by each what", y.join(4, NONE, 2), 3);
         due("no tree, others", y.join(0, 0, 0), NONE);
         for (int manner = 1; manner <= 4; manner++) {
             due("without places", new StreamTree().join(manner, NONE, 0), 0);
+            due("without places, others", new StreamTree().join(manner, NONE, 3), NONE);
         }
     }
 
@@ -585,7 +590,10 @@ public final class PromiseRuns {
         due("the outer one", x.borne(1, 3, 0), 2);
         due("both on", x.borne(1, 1, 0), 3);
         due("another", x.borne(1, 3, 4), 4);
-        due("nothing comes", x.borne(1, 3, 5), NONE);
+        due("nothing comes", x.borne(1, 3, 5), 0);
+        due("nothing comes further in", x.borne(1, 1, 7), 0);
+        x.rock(3, 5, true);
+        due("a rock", x.borne(1, 3, 5), 0);
         due("the source", x.borne(1, 0, 0), NONE);
         x.rock(1, 4, true);
         due("no tree", x.borne(1, 3, 0), NO_TREE);
@@ -593,6 +601,11 @@ public final class PromiseRuns {
         due("no tree, others", x.borne(1, 4, 0), NONE);
         due("no tree, the source", x.borne(1, 0, 0), NONE);
         due("round the rock", x.borne(4, 1, 3), 4);
+        due("a rock that is gone round", x.borne(4, 1, 4), 0);
+        for (int manner = 1; manner <= 4; manner++) {
+            due("without places", new StreamTree().borne(manner, 1, 0), 0);
+            due("without places, the source", new StreamTree().borne(manner, 0, 0), NONE);
+        }
     }
 
     private static void alone() {
