@@ -572,6 +572,13 @@ public final class MannerEdges {
         dueMore("like ones, the least turn", like, new int[] {3, 2}, 1, new int[] {28 * 11 + 10, 1, 0});
         StreamTree edge = Due.told("chart 2 8;place 1 1 5;place 1 7 5");
         dueMore("over the edge, the least turn", edge, new int[] {2, 0}, 1, new int[] {14 * 11 + 10, 1, 1});
+        StreamTree outer = Due.told("chart 3 8;place 2 1 5;place 2 7 5");
+        dueMore("over the edge further out", outer, new int[] {3, 0}, 1, new int[] {14 * 11 + 20, 2, 1});
+        StreamTree inner = Due.told("chart 3 8;place 2 5 20;place 1 4 5");
+        // 14 * 25 + 20 * 15 by (2,5), 20 * 25 + 10 * 15 by (1,4).
+        dueMore("like ones, the inmost though its turn is more", inner, new int[] {3, 4}, 15, new int[] {650, 1, 4});
+        dueMore("dearer further in", inner, new int[] {3, 4}, 14, new int[] {14 * 24 + 20 * 14, 2, 5});
+        dueMore("cheaper further in", inner, new int[] {3, 4}, 16, new int[] {20 * 26 + 10 * 16, 1, 4});
         StreamTree free = Due.told("chart 3 8;place 2 3 5;place 2 5 5;bend 0;base 1;rocks 1 5 3;rocks 2 4 1");
         dueMore("no like ones: further out is less", free, new int[] {3, 4}, 1, new int[] {10 * 2 + 20, 2, 3});
 
