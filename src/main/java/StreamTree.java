@@ -147,7 +147,7 @@ public final class StreamTree {
 
     public int ink(int manner) {
         if (manner == MANNER_ALONE) {
-            return inkOfAllAlone();
+            return knownBests().inkOfAllAlone(now);
         }
         if (!isTreeManner(manner)) {
             return NONE;
@@ -292,7 +292,7 @@ public final class StreamTree {
             case 8:
                 return tape.length;
             case 9:
-                return inkSavedByLeast();
+                return knownBests().inkSavedByLeast(now);
             default:
                 return NONE;
         }
@@ -352,24 +352,6 @@ public final class StreamTree {
             Drawing.drawStraightened(now, lean, straightened);
         }
         return manner == MANNER_STRAIGHTENED ? straightened : lean;
-    }
-
-    private int inkOfAllAlone() {
-        knownBests();
-        int sum = 0;
-        for (int p = 0; p < now.places; p++) {
-            int ink = bests.inkOf(SOURCE, 1 << p);
-            if (ink == NO_TREE) {
-                return NO_TREE;
-            }
-            sum += ink;
-        }
-        return sum;
-    }
-
-    private int inkSavedByLeast() {
-        int apart = inkOfAllAlone();
-        return apart == NO_TREE ? NO_TREE : apart - bests.inkOf(SOURCE, now.allPlaces());
     }
 
     /** The table of bests is used for this and forgotten: a second one would be as large again. */
@@ -730,6 +712,24 @@ public final class StreamTree {
 
         boolean comesTo(int cell, int set) {
             return (set & ~reaching[cell]) == 0;
+        }
+
+        /** Each place by its way of least ink, as if the others were not. */
+        int inkOfAllAlone(Chart chart) {
+            int sum = 0;
+            for (int p = 0; p < chart.places; p++) {
+                int ink = inkOf(SOURCE, 1 << p);
+                if (ink == NO_TREE) {
+                    return NO_TREE;
+                }
+                sum += ink;
+            }
+            return sum;
+        }
+
+        int inkSavedByLeast(Chart chart) {
+            int apart = inkOfAllAlone(chart);
+            return apart == NO_TREE ? NO_TREE : apart - inkOf(SOURCE, chart.allPlaces());
         }
 
         /** Finds the first least of what makes a set at a cell, by the document's order. */

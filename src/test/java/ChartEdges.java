@@ -5,7 +5,7 @@ public final class ChartEdges {
     private static final int DEEP = Due.DEEP;
 
     private static void rings() {
-        Due.sentence("part 1", "RINGS 1 to R (2 to 9; 5 at first)");
+        Due.sentence("part 1", "The CHART has RINGS 1 to R (2 to 9; 5 at first)");
         StreamTree x = new StreamTree();
         Due.is("at first", x.count(0), 5);
         Due.stays(x, () -> {
@@ -242,13 +242,15 @@ public final class ChartEdges {
     }
 
     private static void numbers() {
-        boundsOfSet("BASE (1 to 99; 10 at first)", 0, 1, 99, 10);
-        boundsOfSet("BEND (0 to 40; 4 at first)", 1, 0, 40, 4);
-        boundsOfSet("REACH (0 to 6; 3 at first)", 2, 0, 6, 3);
+        Due.sentence("part 1", "BASE (1 to 99; 10 at first)");
+        boundsOfSet(0, 1, 99, 10);
+        Due.sentence("part 1", "BEND (0 to 40; 4 at first)");
+        boundsOfSet(1, 0, 40, 4);
+        Due.sentence("part 1", "REACH (0 to 6; 3 at first)");
+        boundsOfSet(2, 0, 6, 3);
     }
 
-    private static void boundsOfSet(String words, int what, int low, int high, int first) {
-        Due.sentence("part 1", words);
+    private static void boundsOfSet(int what, int low, int high, int first) {
         StreamTree x = new StreamTree();
         Due.is("at first", x.count(4 + what), first);
         Due.stays(x, () -> {
@@ -371,6 +373,40 @@ public final class ChartEdges {
         Due.is("to the left", left.step(4, 5, 2), 1);
         Due.is("to the left", left.step(4, 5, 3), 1);
         Due.is("both to the left", left.drawn(4, 1), 0);
+        acrossOfLikeOnes();
+    }
+
+    /** Without BEND trees of like ink can lie across; bits that rise from the least place on tell which one it is. */
+    private static void acrossOfLikeOnes() {
+        String four = "chart 2 6;place 2 0 1;place 1 1 1;place 2 1 1;place 2 5 1;bend ";
+        // The first least part is (2,0) with (1,1); (2,1) and (2,5) are the other one, by (1,0).
+        StreamTree x = Due.told(four + 0);
+        Due.is("its ink", x.ink(4), 5 * 10 * 10 + 10 * (2 + 1 + 2 + 2));
+        Due.is("the left one's to the right", x.step(4, 2, 0), 2);
+        Due.is("the right one's to the left", x.step(4, 2, 1), 1);
+        Due.is("one couple", x.drawn(4, 1), 1);
+        for (int manner = 1; manner <= 3; manner++) {
+            Due.is("none in MANNER " + manner, x.drawn(manner, 1), 0);
+        }
+        StreamTree bend = Due.told(four + 1);
+        Due.is("a bend costs: with (1,1) and (2,1)", bend.step(4, 2, 0), 2);
+        Due.is("a bend costs: straight", bend.step(4, 2, 1), 0);
+        Due.is("a bend costs: none", bend.drawn(4, 1), 0);
+        // (2,4) can only go to (1,5), (5,4) only round to (1,0): bits 1 and 2, so (2,0) goes with (2,4).
+        StreamTree round = Due.told("chart 5 6;bend 0;place 2 0 1;place 2 4 1;place 5 4 1;place 2 5 1;rocks 1 1 4"
+            + ";rocks 2 2 2;rocks 3 3 2;rocks 4 4 2");
+        Due.is("its ink", round.ink(4), 9 * 10 * 10 + 10 * (2 + 2 + 5 + 2));
+        Due.is("the last turn's to the right", round.step(4, 2, 5), 2);
+        Due.is("turn 0's to the left", round.step(4, 2, 0), 1);
+        Due.is("one couple, round", round.drawn(4, 1), 1);
+        StreamTree two = Due.told("chart 5 6;bend 0;place 1 2 1;place 2 2 1;place 2 3 1;place 2 4 1;place 3 3 1;place 5 0 1"
+            + ";place 5 4 1");
+        int[][] couples = {{3, 3}, {2, 2}};
+        for (int[] c : couples) {
+            Due.is("to the right", two.step(4, c[0], c[1]), 2);
+            Due.is("to the left", two.step(4, c[0], c[1] + 1), 1);
+        }
+        Due.is("two couples", two.drawn(4, 1), 2);
     }
 
     public static void main(String[] args) {

@@ -1,8 +1,11 @@
+import java.io.IOException;
 import java.lang.management.ManagementFactory;
 import java.lang.reflect.Constructor;
 import java.lang.reflect.Field;
 import java.lang.reflect.Method;
 import java.lang.reflect.Modifier;
+import java.nio.file.Files;
+import java.nio.file.Path;
 import java.util.Arrays;
 import java.util.HashSet;
 import java.util.List;
@@ -71,6 +74,29 @@ public final class FaceRuns {
         due("what at() tells that it throws", Arrays.equals(declared, new Class<?>[] {NoSuchElementException.class}));
     }
 
+    /** The document's face, line by line, stands in the source as it is, and nothing else there is public. */
+    private static void asTheDocumentTells() throws IOException {
+        String document = Files.readString(Path.of("../shared/DOC.md"));
+        int from = document.indexOf("```java\n");
+        int to = document.indexOf("```", from + 1);
+        due("the document has a face", from >= 0 && to > from);
+        String source = Files.readString(Path.of("src/main/java/StreamTree.java"));
+        long told = document.substring(from, to).lines().filter(FaceRuns::isPublic).count();
+        due("as many public lines: " + told, told == source.lines().filter(FaceRuns::isPublic).count());
+        for (String line : document.substring(from, to).lines().filter(FaceRuns::isPublic).toList()) {
+            String bare = line.strip().replace(";", "");
+            due("in the source: " + bare, source.lines().anyMatch(l -> isThat(l.strip(), bare)));
+        }
+    }
+
+    private static boolean isThat(String line, String told) {
+        return line.equals(told) || line.equals(told + ";") || line.equals(told + " {");
+    }
+
+    private static boolean isPublic(String line) {
+        return line.strip().startsWith("public ");
+    }
+
     private static int sum = 0;
 
     private static void callAll(StreamTree x) {
@@ -102,9 +128,10 @@ public final class FaceRuns {
         due("its calls take " + (called - made) + " bytes", called - made < 20_000);
     }
 
-    public static void main(String[] args) throws NoSuchMethodException {
+    public static void main(String[] args) throws NoSuchMethodException, IOException {
         members();
         thrown();
+        asTheDocumentTells();
         room();
         System.out.println(wrong == 0 ? "the face is as due" : wrong + " things are not as due");
         if (wrong != 0) {

@@ -16,7 +16,7 @@ public final class MannerEdges {
     }
 
     private static void aloneAndStraight() {
-        Due.sentence("part 2", "0 ALONE is no TREE");
+        Due.sentence("part 2", "MANNERS. 0 ALONE is no TREE");
         StreamTree x = Due.told("chart 3 8;place 3 0 20;place 2 0 5");
         Due.is("it has ink", x.ink(0), 30 * 30 + 20 * 15);
         Due.stays(x, () -> {
@@ -131,13 +131,13 @@ public final class MannerEdges {
             Due.is("to its left", x.step(2, 2, 4), 0);
         }
 
-        Due.sentence("part 2", "by how all stand and what comes to each, ahead of all STEPS of that RING");
+        Due.sentence("part 2", "Each wants, by how all stand and what comes to each, ahead of all STEPS of that RING");
         StreamTree all = Due.told("chart 3 12;place 3 2 5;place 3 4 5;place 3 7 5");
         Due.is("2 away", all.step(2, 3, 2), 2);
         Due.is("2 to the left, 3 to the right", all.step(2, 3, 4), 1);
         Due.is("3 away, though it goes the other way", all.step(2, 3, 7), 1);
 
-        Due.sentence("part 2", "RINGS from R to 2, one behind the other");
+        Due.sentence("part 2", "2 LEAN: RINGS from R to 2, one behind the other");
         for (int rings = 2; rings <= 9; rings++) {
             StreamTree x = new StreamTree();
             x.chart(rings, 12);
@@ -212,7 +212,7 @@ public final class MannerEdges {
     }
 
     private static void straightened() {
-        Due.sentence("part 2", "RINGS from R to 3, TURNS from 0 on");
+        Due.sentence("part 2", "3 STRAIGHTENED: LEAN, and then, RINGS from R to 3, TURNS from 0 on");
         for (int n : new int[] {11, 12, 24}) {
             for (int from = 0; from < n; from++) {
                 straightenedAt(n, from, false);
@@ -232,7 +232,7 @@ public final class MannerEdges {
             }
         }
 
-        Due.sentence("part 2", "to a CELL with no PLACE to which nothing else comes");
+        Due.sentence("part 2", "a CELL whose STEP bends, to a CELL with no PLACE to which nothing else comes");
         StreamTree place = detour(12, 0, false);
         place.place(2, 5, 5);
         dueDetourStays("a place there", place);
@@ -314,7 +314,8 @@ public final class MannerEdges {
         Due.is("bits 3 ahead of 5: the third one alone", first.step(4, 2, 6), 0);
         Due.is("the others join", first.join(4, 0, 1), 1);
 
-        Due.sentence("part 2", "those of the same TURN, of one less, of one more (of the SOURCE: by TURNS)");
+        Due.sentence("part 2", "then, of the CELLS outwards from which a STEP goes there, those of the same TURN, "
+            + "of one less, of one more (of the SOURCE: by TURNS)");
         StreamTree early = Due.told("chart 3 8;place 3 4 5;rocks 1 4 2");
         Due.is("the same turn ahead of one more", early.way(4, 0, 2), 3);
         StreamTree late = Due.told("chart 3 8;place 3 4 5;rocks 1 3 2");
@@ -358,7 +359,7 @@ public final class MannerEdges {
     }
 
     private static void noTreeAhead() {
-        Due.sentence("part 2", "-2 goes ahead of the NONE of a CELL to which nothing comes");
+        Due.sentence("part 2", "(Where there is no TREE, -2 goes ahead of the NONE of a CELL to which nothing comes");
         StreamTree x = Due.told(SHUT);
         Due.stays(x, () -> {
             for (int manner = 1; manner <= 4; manner++) {
@@ -454,7 +455,7 @@ public final class MannerEdges {
     }
 
     private static void noTree() {
-        Due.sentence("part 2", "if a ROCK is in the way (STRAIGHT)");
+        Due.sentence("part 2", "There is no TREE of a MANNER, if a ROCK is in the way (STRAIGHT)");
         for (int ring = 1; ring <= 3; ring++) {
             StreamTree x = Due.told("chart 4 8;place 4 3 5;rocks " + ring + " 3 1");
             Due.is("in ring " + ring, x.ink(1), NO_TREE);

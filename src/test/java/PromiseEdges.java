@@ -85,7 +85,7 @@ public final class PromiseEdges {
         Due.is("drawings follow", x.ink(4), 0);
         Due.is("a place again", x.place(5, 11, 7), 1);
 
-        Due.sentence("promise 5", "NONE: others");
+        Due.sentence("promise 5", "How many PLACES there are then; NONE: others");
         StreamTree y = Due.told(CHART);
         Due.stays(y, () -> {
             for (int[] c : NO_CELLS) {
@@ -192,7 +192,8 @@ public final class PromiseEdges {
     }
 
     private static void at() {
-        Due.sentence("promise 8", "what 0: RING, 1: TURN, 2: AMOUNT; NoSuchElementException: others, none such");
+        Due.sentence("promise 8", "Of a PLACE, what 0: RING, 1: TURN, 2: AMOUNT; "
+            + "NoSuchElementException: others, none such");
         StreamTree none = new StreamTree();
         Due.stays(none, () -> {
             for (int place : new int[] {0, -1, 1, 6, 7, FAR, DEEP}) {
@@ -268,7 +269,7 @@ public final class PromiseEdges {
     }
 
     private static void step() {
-        Due.sentence("promise 11", "0 straight (to the SOURCE, too), 1 left, 2 right");
+        Due.sentence("promise 11", "Where its STEP goes: 0 straight (to the SOURCE, too), 1 left, 2 right");
         StreamTree ways = Due.told("chart 3 8;place 3 1 5;place 3 3 5;place 3 6 9;reach 2");
         for (int manner = 2; manner <= 3; manner++) {
             Due.is("right", ways.step(manner, 3, 1), 2);

@@ -7,7 +7,7 @@ public final class TextEdges {
         "chart 2 6;place 1 0 1;place 1 1 1;place 1 2 1;place 1 3 1;place 1 4 1;place 1 5 1;place 2 0 1";
 
     private static void tape() {
-        Due.sentence("part 1", "THE TAPE has 500 bytes");
+        Due.sentence("part 1", "A TEXT (THE TAPE has 500 bytes");
         String longest = "chart 9 24" + " ".repeat(483) + ";base 8";
         StreamTree x = new StreamTree();
         Due.feed(x, longest);
@@ -164,7 +164,7 @@ public final class TextEdges {
     }
 
     private static void tokens() {
-        Due.sentence("part 1", "words of small letters that stand together");
+        Due.sentence("part 1", "TOKENS: words of small letters that stand together");
         for (String word : new String[] {"place", "rocks", "base", "bend", "reach"}) {
             String numbers = word.equals("place") || word.equals("rocks") ? " 1 1 1" : " 1";
             Due.textIs("chart 2 6;" + word + numbers, word.equals("place") ? 1 : 0);
@@ -254,7 +254,7 @@ public final class TextEdges {
         Due.is("TURN", x.at(0, 1), 7);
         Due.is("AMOUNT", x.at(0, 2), 99);
 
-        Due.sentence("part 1", "| rocks NUMBER NUMBER NUMBER");
+        Due.sentence("part 1", "| rocks NUMBER NUMBER NUMBER (a RING");
         for (String head : new String[] {"rocks", "rocks 1", "rocks 1 1"}) {
             Due.textIs("chart 2 6;" + head, Due.fault(10 + head.length(), 1));
             Due.textIs("chart 2 6;" + head + ";base 1", Due.fault(10 + head.length(), 1));

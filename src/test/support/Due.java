@@ -28,16 +28,27 @@ final class Due {
         }
     }
 
-    /** What stands under "==== 1." (asked for as "part 1") or under "## Promise 5:" ("promise 5"). */
-    private static String section(String where) {
+    /** How a section begins: "==== 1. " (asked for as "part 1"), "## Promise 5: " ("promise 5"), or "## Terms". */
+    private static String headOf(String where) {
         String number = where.substring(where.indexOf(' ') + 1);
-        boolean isPart = where.startsWith("part ");
-        int from = DOCUMENT.indexOf(isPart ? "==== " + number + ". " : "## Promise " + number + ": ");
-        if (from < 0) {
-            return "";
+        if (where.startsWith("part ")) {
+            return "\n==== " + number + ". ";
         }
-        int to = DOCUMENT.indexOf(isPart ? "\n====" : "\n## ", from + 1);
-        return to < 0 ? DOCUMENT.substring(from) : DOCUMENT.substring(from, to);
+        return where.startsWith("promise ") ? "\n## Promise " + number + ": " : "\n## " + where + "\n";
+    }
+
+    /** Where the words stand in that section of a document; -1 if they do not. */
+    static int find(String document, String where, String words) {
+        int from = document.indexOf(headOf(where));
+        if (from < 0) {
+            return -1;
+        }
+        int part = document.indexOf("\n====", from + 1);
+        int heading = document.indexOf("\n## ", from + 1);
+        int to = heading < 0 ? document.length() : heading;
+        to = part < 0 ? to : Math.min(part, to);
+        int at = document.indexOf(words, from);
+        return at >= 0 && at + words.length() <= to ? at : -1;
     }
 
     /** What is held from here on is held by these words, which must stand in that section of the document. */
@@ -46,7 +57,7 @@ final class Due {
         open = where + " \"" + words + "\"";
         heldOfOpen = 0;
         sentences++;
-        if (!DOCUMENT.isEmpty() && !section(where).contains(words)) {
+        if (!DOCUMENT.isEmpty() && find(DOCUMENT, where, words) < 0) {
             fail("these words do not stand there");
         }
     }
