@@ -842,8 +842,7 @@ public final class ModelRuns {
         return sb.toString();
     }
 
-    private void feedAndRead() {
-        String text = textByChance();
+    private void feedBoth(String text) {
         for (int i = 0; i < text.length(); i += 20) {
             int[] v = new int[5];
             for (int k = 0; k < 20; k++) {
@@ -852,6 +851,11 @@ public final class ModelRuns {
             }
             same(run, "feed()", x.feed(v[0], v[1], v[2], v[3], v[4]), m.feed(v));
         }
+    }
+
+    private void feedAndRead() {
+        String text = textByChance();
+        feedBoth(text);
         same(run, "count(8)", x.count(8), m.count(8));
         int n = chance.nextInt(10) == 0 ? near(0, 500) : text.length();
         same(run, "text(" + n + ") of '" + text + "'", x.text(n), m.text(n));
@@ -1005,6 +1009,33 @@ public final class ModelRuns {
         }
     }
 
+    /** Couples that lie across are rare by chance; these charts have some, the last five two of them. */
+    private void lookAtKnots() {
+        String[] knots = {
+            "chart 2 6;place 2 0 1;place 1 1 1;place 2 1 1;place 2 5 1",
+            "chart 2 6;place 2 0 1;place 1 1 1;place 2 1 1;place 2 5 1;rocks 1 4 2",
+            "chart 5 6;place 2 0 1;place 2 4 1;place 5 4 1;place 2 5 1;rocks 1 1 4;rocks 2 2 2;rocks 3 3 2;rocks 4 4 2",
+            "chart 4 8;place 2 2 1;place 1 2 1;place 4 2 1;place 3 7 1;place 2 1 1",
+            "chart 4 8;place 4 7 1;place 4 2 1;place 1 2 1;place 4 4 1;place 3 2 1;place 1 3 1;place 3 1 1",
+            "chart 5 6;place 1 2 1;place 3 3 1;place 2 3 1;place 2 4 1;place 2 2 1;place 5 0 1;place 5 4 1",
+            "chart 6 7;place 5 0 1;place 3 5 1;place 1 3 1;place 2 3 1;place 3 4 1;place 2 4 1;place 2 5 1",
+            "chart 6 10;place 4 8 1;place 5 8 1;place 6 4 1;place 1 8 1;place 4 7 1;place 4 9 1;place 6 0 1",
+            "chart 4 6;place 1 1 1;place 4 5 1;place 4 1 1;place 3 1 1;place 3 3 1;place 4 0 1;place 1 2 1;rocks 2 3 2"
+                + ";rocks 3 5 1",
+            "chart 6 9;place 3 2 1;place 3 1 1;place 1 0 1;place 5 7 1;place 5 2 1;place 4 0 1;place 4 4 1;rocks 3 5 1"
+                + ";rocks 4 2 1;rocks 5 3 1"};
+        for (int k = 0; k < knots.length; k++) {
+            String text = knots[k] + ";bend 0";
+            feedBoth(text);
+            same(run, "text(" + text.length() + ") of '" + text + "'", x.text(text.length()), m.text(text.length()));
+            same(run, "drawn(4,1) of '" + text + "'", m.drawn(4, 1), k < 5 ? 1 : 2);
+            askAllOfTrees();
+            for (int turn = 0; turn < m.turns; turn++) {
+                same(run, "more() of a knot", x.more(m.rings, turn, 9, 0), m.more(m.rings, turn, 9, 0));
+            }
+        }
+    }
+
     private void go() {
         boolean often = run % 3 == 0;
         if (run % 2 == 0) {
@@ -1031,6 +1062,7 @@ public final class ModelRuns {
         for (int run = 0; run < runs; run++) {
             new ModelRuns(run).go();
         }
+        new ModelRuns(runs).lookAtKnots();
         System.out.println(answers);
         System.out.println(wrong == 0 ? "all answers are as the model's" : wrong + " answers are not as the model's");
         if (wrong != 0) {
